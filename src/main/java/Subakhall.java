@@ -38,6 +38,14 @@ public final class Subakhall {
     private static final int MOST_THOUGHT = 120;
     private static final int FINE = 5;
 
+    // What the face is asked for, as the document numbers it.
+    private static final int FIELD_WATER = 1;
+    private static final int FIELD_PESTS = 8;
+    private static final int OWNER_COINS = 0;
+    private static final int OWNER_EXCLUDED = 3;
+    private static final int SOCIETY_CHEST = 2;
+    private static final int SOCIETY_LEFT = 3;
+
     private static final int PUT_OFFS = 3;
     private static final int PUT_OFF_DAYS = 5;
 
@@ -264,9 +272,9 @@ public final class Subakhall {
     public int water(int what) throws IllegalArgumentException {
         switch (what) {
             case 0: return hill.ledger.came;
-            case 1: return hill.sumOfWater();
+            case 1: return sumOfFields(FIELD_WATER);
             case 2: return hill.rest;
-            case 3: return hill.sumOfLeft();
+            case 3: return sumOfSocieties(SOCIETY_LEFT);
             case 4: return hill.ledger.sank;
             case 5: return hill.ledger.drunk;
             case 6: return hill.ledger.ranOut;
@@ -275,7 +283,7 @@ public final class Subakhall {
     }
 
     public boolean isClosed() {
-        int stands = hill.sumOfWater() + hill.rest + hill.sumOfLeft();
+        int stands = sumOfFields(FIELD_WATER) + hill.rest + sumOfSocieties(SOCIETY_LEFT);
         return hill.ledger.came == stands + hill.ledger.sumOfGone();
     }
 
@@ -291,13 +299,13 @@ public final class Subakhall {
             case 2: return hill.day;
             case 3: return hill.templeDay();
             case 4: return oneIf(hill.isDark());
-            case 5: return hill.sumOfPests();
-            case 6: return hill.sumOfCoins();
-            case 7: return hill.sumOfChests();
-            case 8: return hill.countExcluded();
+            case 5: return sumOfFields(FIELD_PESTS);
+            case 6: return sumOfOwners(OWNER_COINS);
+            case 7: return sumOfSocieties(SOCIETY_CHEST);
+            case 8: return sumOfOwners(OWNER_EXCLUDED);
             case 9: return hill.cuts;
             case 10: return hill.yielded;
-            case 11: return hill.sumOfStones();
+            case 11: return sumOfStones();
             default: throw new IllegalArgumentException("what is not 0 to 11");
         }
     }
@@ -310,7 +318,7 @@ public final class Subakhall {
         return numberOf(societyAt(society).mostAboveNotch());
     }
 
-    // ---- what would be
+    // ---- what would be (nothing is changed; days as the last one was)
 
     public int wouldYield(int field, int days)
             throws IndexOutOfBoundsException, IllegalArgumentException {
@@ -410,6 +418,38 @@ public final class Subakhall {
         }
     }
 
+    private int sumOfFields(int what) {
+        int sum = 0;
+        for (int f = 0; f < hill.fields.size(); f++) {
+            sum += ofField(f, what);
+        }
+        return sum;
+    }
+
+    private int sumOfOwners(int what) {
+        int sum = 0;
+        for (int f = 0; f < hill.fields.size(); f++) {
+            sum += ofOwner(f, what);
+        }
+        return sum;
+    }
+
+    private int sumOfSocieties(int what) {
+        int sum = 0;
+        for (int s = 0; s < hill.societies.size(); s++) {
+            sum += ofSociety(s, what);
+        }
+        return sum;
+    }
+
+    private int sumOfStones() {
+        int sum = 0;
+        for (int f = 0; f < hill.fields.size(); f++) {
+            sum += hill.fields.get(f).stones;
+        }
+        return sum;
+    }
+
     private void tryDays(int days) {
         trial.copyFrom(hill);
         for (int passed = 0; passed < days; passed++) {
@@ -491,12 +531,6 @@ public final class Subakhall {
 
         boolean isExcluded() {
             return coins < 0;
-        }
-
-        void copyFrom(Owner other) {
-            coins = other.coins;
-            account = other.account;
-            rice = other.rice;
         }
     }
 
@@ -586,9 +620,6 @@ public final class Subakhall {
             sum = other.sum;
             vigour = other.vigour;
             nitrogen = other.nitrogen;
-            help = other.help;
-            leastThought = other.leastThought;
-            mostThought = other.mostThought;
         }
     }
 
@@ -619,7 +650,7 @@ public final class Subakhall {
         }
 
         boolean takesWater() {
-            return isOpen && !owner.isExcluded();
+            return isOpen && owner.coins >= 0;
         }
 
         int part() {
@@ -633,13 +664,6 @@ public final class Subakhall {
             } else {
                 crop.nitrogen = Math.min(MOST_NITROGEN, crop.nitrogen + STRAW_NITROGEN);
             }
-        }
-
-        void liveDay(int warmth, int rain, Ledger ledger) {
-            passWater(rain, ledger);
-            dryOut();
-            crop.grow(water, pests, warmth);
-            breedPests();
         }
 
         void passWater(int rain, Ledger ledger) {
@@ -701,10 +725,7 @@ public final class Subakhall {
             dry = other.dry;
             pests = other.pests;
             hasDucks = other.hasDucks;
-            got = other.got;
-            arriving = other.arriving;
-            flying = other.flying;
-            owner.copyFrom(other.owner);
+            owner.coins = other.owner.coins;
             crop.copyFrom(other.crop);
         }
     }
@@ -883,10 +904,7 @@ public final class Subakhall {
         void copyFrom(Society other) {
             from = other.from;
             days = other.days;
-            chest = other.chest;
             left = other.left;
-            crop = other.crop;
-            gotAtWeir = other.gotAtWeir;
             isRotating = other.isRotating;
             lastInTurn = other.lastInTurn;
         }
@@ -941,7 +959,11 @@ public final class Subakhall {
                 societies.get(s).shareOut(templeDay, ledger);
             }
             for (int f = 0; f < fields.size(); f++) {
-                fields.get(f).liveDay(warmth, rain, ledger);
+                Field its = fields.get(f);
+                its.passWater(rain, ledger);
+                its.dryOut();
+                its.crop.grow(its.water, its.pests, warmth);
+                its.breedPests();
             }
             flyPests();
         }
@@ -1047,63 +1069,7 @@ public final class Subakhall {
             return count;
         }
 
-        int sumOfWater() {
-            int sum = 0;
-            for (int f = 0; f < fields.size(); f++) {
-                sum += fields.get(f).water;
-            }
-            return sum;
-        }
-
-        int sumOfPests() {
-            int sum = 0;
-            for (int f = 0; f < fields.size(); f++) {
-                sum += fields.get(f).pests;
-            }
-            return sum;
-        }
-
-        int sumOfStones() {
-            int sum = 0;
-            for (int f = 0; f < fields.size(); f++) {
-                sum += fields.get(f).stones;
-            }
-            return sum;
-        }
-
-        int sumOfCoins() {
-            int sum = 0;
-            for (int f = 0; f < fields.size(); f++) {
-                sum += fields.get(f).owner.coins;
-            }
-            return sum;
-        }
-
-        int countExcluded() {
-            int count = 0;
-            for (int f = 0; f < fields.size(); f++) {
-                count += fields.get(f).owner.isExcluded() ? 1 : 0;
-            }
-            return count;
-        }
-
-        int sumOfLeft() {
-            int sum = 0;
-            for (int s = 0; s < societies.size(); s++) {
-                sum += societies.get(s).left;
-            }
-            return sum;
-        }
-
-        int sumOfChests() {
-            int sum = 0;
-            for (int s = 0; s < societies.size(); s++) {
-                sum += societies.get(s).chest;
-            }
-            return sum;
-        }
-
-        // The ledger stays behind: what would be is never asked for its water.
+        // Here and below only what a day goes by: a trial is asked for its stages and yields alone.
         void copyFrom(Hill other) {
             day = other.day;
             rest = other.rest;

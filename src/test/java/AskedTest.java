@@ -173,6 +173,27 @@ public final class AskedTest {
         check.noSuch("22: thought(1, true)", x, () -> x.thought(1, true));
         check.noSuch("22: thought(-1, false)", x, () -> x.thought(-1, false));
         thoughtOfNothing();
+        thoughtOfMuch();
+    }
+
+    private static void thoughtOfMuch() {
+        Subakhall x = Check.planted(2);
+        Check.dayTo(x, 20, 0);
+        Check.dayTo(x, 20, 0);
+        for (int i = 0; i < 7; i++) {
+            Check.dayTo(x, 20, 40);
+        }
+        x.day(0, 0, 0);
+        x.day(0, 0, 0);
+        check.due("22: the YIELD", x.ofField(0, 10), 49);
+        check.due("22: a CUT of 90 of 100", x.cut(0), 44);
+        check.due("22: at least 4400 / 110", x.thought(0, false), 40);
+        check.due("22: at most 4499 / 90", x.thought(0, true), 49);
+        x.cut(0);
+        x.cut(0);
+        check.due("22: a CUT of 105 of 100", x.cut(0), 51);
+        check.due("22: at least 5100 / 110, rounded up", x.thought(0, false), 47);
+        check.due("22: at most as ahead", x.thought(0, true), 49);
     }
 
     private static void thoughtOfNothing() {
@@ -255,7 +276,31 @@ public final class AskedTest {
         x.rotate(0, true);
         x.day(80, 0, 0);
         check.due("25: by a turn none", x.suspect(0), -1);
+        suspectOfLittle();
         check.noSuch("25: suspect(2)", x, () -> x.suspect(2));
         check.noSuch("25: suspect(-1)", x, () -> x.suspect(-1));
+    }
+
+    private static void suspectOfLittle() {
+        Subakhall x = new Subakhall();
+        x.society(1, 0, 0, 210);
+        x.field(0, 1, 60);
+        x.field(0, 1, 60);
+        x.gate(0, true);
+        x.gate(1, true);
+        x.stones(0, 1);
+        x.day(3, 0, 0);
+        // 2 and 1 of 3, of which each notch is due 1.
+        check.due("25: 1 above", x.suspect(0), 0);
+        Subakhall y = new Subakhall();
+        y.society(1, 0, 0, 210);
+        y.field(0, 1, 60);
+        y.field(0, 9, 60);
+        y.gate(0, true);
+        y.gate(1, true);
+        y.stones(0, 5);
+        y.day(3, 0, 0);
+        // 1 and 1, of which a notch of 10 is due 0.
+        check.due("25: 1 in all", y.suspect(0), 0);
     }
 }

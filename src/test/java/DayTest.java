@@ -18,6 +18,7 @@ public final class DayTest {
         pestsBreed();
         pestsFly();
         pestsFlyBoth();
+        pestsFlyAbove20();
         excluded();
         check.end();
     }
@@ -138,15 +139,18 @@ public final class DayTest {
             check.due("13: DRY", x.ofField(0, 3), day);
             check.due("13: CRACKS on " + day, x.ofField(0, 2), Math.min(3, day / 3));
         }
-        x.day(30, 0, 0);
+        x.day(6, 0, 0);
+        check.due("13: 1 deep", x.ofField(0, 1), 1);
+        check.due("13: 1 deep is not DRY", x.ofField(0, 3), 0);
+        x.day(29, 0, 0);
         check.due("13: CRACKS seep 4", x.ofField(0, 1), 25);
         check.due("13: a half of it is below, and seeps and is DRUNK", x.ofField(1, 1), 0);
         check.due("13: DRY no more", x.ofField(0, 3), 0);
         check.due("13: CRACKS stay", x.ofField(0, 2), 3);
-        // Above 2 of the 4 sink; below 2 come and seep, 1 runs out and 1 sinks.
-        check.due("13: sank", x.water(4), 3);
-        check.due("13: OUT", x.water(6), 1);
-        check.due("13: DRUNK", x.water(5), 1);
+        // Each day: above 2 of the 4 sink; below 2 come and seep, 1 runs out and 1 sinks.
+        check.due("13: sank", x.water(4), 6);
+        check.due("13: OUT", x.water(6), 2);
+        check.due("13: DRUNK", x.water(5), 2);
     }
 
     private static void drinks() {
@@ -235,6 +239,13 @@ public final class DayTest {
             check.due("13: PESTS", x.ofField(0, 8), pests[i]);
             check.due("13: VIGOUR by PESTS", x.ofField(0, 7), vigour);
         }
+        Subakhall y = Check.planted(2);
+        Check.breed(y, 9, false);
+        Check.breed(y, 2, true);
+        check.due("13: 20 PESTS", y.ofField(0, 8), 20);
+        check.due("13: 19 do not hurt", y.ofField(0, 7), 100);
+        Check.breed(y, 1, false);
+        check.due("13: 20 hurt by 1", y.ofField(0, 7), 99);
     }
 
     private static void nitrogen() {
@@ -313,6 +324,38 @@ public final class DayTest {
         check.due("13: two fifths less", x.ofField(1, 8), 19);
         check.due("13: one to the smaller number", x.ofField(0, 8), 6);
         check.due("13: one to the greater number", x.ofField(2, 8), 6);
+    }
+
+    private static void pestsFlyAbove20() {
+        Subakhall x = threeWet();
+        Check.helpAndPlant(x, 0, 2);
+        breed(x, 9, false);
+        breed(x, 2, true);
+        check.due("13: 20 PESTS", x.ofField(0, 8), 20);
+        Subakhall y = threeWet();
+        Check.helpAndPlant(y, 0, 2);
+        Check.helpAndPlant(y, 2, 2);
+        y.ducks(2, true);
+        breed(y, 9, false);
+        breed(y, 2, true);
+        check.due("13: 20 do not fly", y.ofField(0, 8), 20);
+        check.due("13: none has come", y.ofField(2, 8), 0);
+        Subakhall z = threeWet();
+        Check.helpAndPlant(z, 0, 2);
+        Check.helpAndPlant(z, 2, 2);
+        z.ducks(2, true);
+        breed(z, 6, false);
+        breed(z, 1, true);
+        breed(z, 4, false);
+        check.due("13: of 21 a fifth flies", z.ofField(0, 8), 17);
+        check.due("13: a fifth of 21 has come", z.ofField(2, 8), 4);
+    }
+
+    private static void breed(Subakhall x, int days, boolean withDucks) {
+        x.ducks(0, withDucks);
+        for (int i = 0; i < days; i++) {
+            x.day(0, 0, 3);
+        }
     }
 
     private static void excluded() {

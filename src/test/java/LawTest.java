@@ -76,14 +76,19 @@ public final class LawTest {
     }
 
     private static void voteByPests() {
+        Subakhall y = Check.planted(2);
+        Check.breed(y, 9, false);
+        Check.breed(y, 1, true);
+        Check.breed(y, 1, false);
+        Check.breed(y, 2, true);
+        check.due("16: PESTS", y.ofField(0, 8), 30);
+        check.due("16: 30 PESTS do not alarm", y.vote(0), 0);
         Subakhall x = Check.planted(2);
-        for (int i = 0; i < 11; i++) {
-            Check.dayTo(x, 20, 0);
-        }
-        check.due("16: PESTS", x.ofField(0, 8), 29);
-        check.due("16: 29 PESTS do not alarm", x.vote(0), 0);
-        Check.dayTo(x, 20, 0);
-        check.due("16: 37 PESTS do", x.vote(0), 1);
+        Check.breed(x, 9, false);
+        Check.breed(x, 1, true);
+        Check.breed(x, 2, false);
+        check.due("16: PESTS", x.ofField(0, 8), 31);
+        check.due("16: 31 PESTS do", x.vote(0), 1);
         check.due("16: without a MODEL FROM stays", x.ofSociety(0, 0), 0);
         x.society(1, 0, 40, 50);
         x.society(1, 0, 60, 70);

@@ -159,6 +159,11 @@ public final class SocietiesAndFieldsTest {
         check.due("6: a turn not taken stands", x.ofSociety(0, 8), 0);
         x.gate(0, false);
         check.due("6: the next turn of the only one", x.ofSociety(0, 8), 2);
+        Subakhall y = Check.oneField(60);
+        y.rotate(0, true);
+        y.gate(0, false);
+        y.day(10, 0, 0);
+        check.due("6: without a taker it runs OUT", y.water(6), 10);
         check.noSuch("6: rotate(1, true)", x, () -> x.rotate(1, true));
         check.noSuch("6: rotate(-1, true)", x, () -> x.rotate(-1, true));
     }

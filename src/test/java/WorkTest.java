@@ -11,6 +11,7 @@ public final class WorkTest {
         ducks();
         harvestBurnt();
         harvestPloughed();
+        harvestOfKinds();
         cut();
         check.end();
     }
@@ -156,6 +157,37 @@ public final class WorkTest {
         check.due("11: NITROGEN is 50 at most", x.ofField(0, 9), 50);
         Subakhall y = Check.planted(0);
         check.badState("11: GROWING", y, () -> y.harvest(0, false));
+    }
+
+    private static void harvestOfKinds() {
+        Subakhall x = Check.planted(1);
+        while (x.ofField(0, 4) != 5) {
+            Check.dayTo(x, 20, 40);
+        }
+        // Five days take 4 NITROGEN: 60 times 66, divided by 100.
+        check.due("11: KIND 1", x.harvest(0, false), 39);
+        check.due("11: a tenth of 39", x.ofSociety(0, 2), 3);
+        Subakhall y = Check.planted(2);
+        Check.dayTo(y, 20, 0);
+        Check.dayTo(y, 20, 0);
+        while (y.ofField(0, 4) != 5) {
+            Check.dayTo(y, 20, 40);
+        }
+        // Nine days take 8 NITROGEN: 80 times 62, divided by 100.
+        check.due("11: PESTS ahead", y.ofField(0, 8), 14);
+        check.due("11: KIND 2", y.harvest(0, true), 49);
+        check.due("11: a tenth of 49", y.ofSociety(0, 2), 4);
+        check.due("11: RICE of 49", y.ofOwner(0, 2), 45);
+        check.due("11: half of the PESTS", y.ofField(0, 8), 7);
+        y.day(0, 0, 0);
+        check.due("11: half of these", y.ofField(0, 8), 3);
+        Subakhall z = Check.planted(2);
+        while (z.ofField(0, 4) != 5) {
+            Check.dayTo(z, 20, 40);
+        }
+        // Seven days take 6 NITROGEN: 80 times 64, divided by 100.
+        check.due("11: KIND 2, sooner", z.harvest(0, true), 51);
+        check.due("11: a tenth of 51", z.ofSociety(0, 2), 5);
     }
 
     private static void cut() {

@@ -5,9 +5,10 @@ public final class WouldBeTest {
     public static void main(String[] args) {
         wouldYield();
         ripeIn();
-        planNow();
-        planPutsOff();
-        planOfThree();
+        plan();
+        planByKind();
+        planMendsCracks();
+        planLeavesWhatGrows();
         planRefuses();
         digest();
         check.end();
@@ -33,52 +34,168 @@ public final class WouldBeTest {
         check.noSuch("26: wouldYield(1, 0)", x, () -> x.wouldYield(1, 0));
         check.noSuch("26: wouldYield(-1, 1)", x, () -> x.wouldYield(-1, 1));
         wouldYieldAgainstTheRealHill();
+        wouldYieldInTurns();
+        wouldYieldByWhatIsLeft();
+        wouldYieldByTheRest();
+        wouldYieldBehindAVote();
+        wouldYieldWithADryField();
     }
 
-    /** Two societies, rotating, fined, cracked, with pests: what would be is what then is. */
+    /** Asks, lets the days pass in earnest, and compares. */
+    private static void asItComes(String why, Subakhall x, int days, int[] weather) {
+        int[] would = new int[x.many(1)];
+        for (int f = 0; f < would.length; f++) {
+            would[f] = x.wouldYield(f, days);
+        }
+        for (int i = 0; i < days; i++) {
+            x.day(weather[0], weather[1], weather[2]);
+        }
+        for (int f = 0; f < would.length; f++) {
+            check.due("26: " + why + ", field " + f, would[f], x.ofField(f, 10));
+        }
+    }
+
+    private static void ripensAsItComes(String why, Subakhall x, int days, int flow) {
+        check.due("26: " + why + ", there is a YIELD", x.wouldYield(0, days) > 0, true);
+        asItComes(why, x, days, new int[] {flow, 37, 0});
+    }
+
+    /** Wet fields of society 0, planted with KIND 2 on day 1, 18 deep, with shut gates and ducks. */
+    private static Subakhall wet(int societies, int fields, int from) {
+        Subakhall x = new Subakhall();
+        for (int s = 0; s < societies; s++) {
+            x.society(1, 0, from, 210 - from);
+        }
+        for (int f = 0; f < fields; f++) {
+            x.field(0, 1, 20);
+        }
+        x.day(0, 0, 30);
+        for (int f = 0; f < fields; f++) {
+            x.puddle(f);
+            Check.helpAndPlant(x, f, 2);
+            x.ducks(f, true);
+        }
+        return x;
+    }
+
+    private static void wouldYieldInTurns() {
+        for (int flow = 1; flow <= 12; flow++) {
+            Subakhall x = wet(1, 2, 0);
+            x.gate(0, true);
+            x.gate(1, true);
+            x.rotate(0, true);
+            for (int i = 0; i < 4; i++) {
+                x.day(0, 0, 0);
+            }
+            x.day(flow, 37, 0);
+            check.due("26: the turn of 1 is next", x.ofSociety(0, 8), 1);
+            ripensAsItComes("in turns", x, 7, flow);
+        }
+    }
+
+    private static void wouldYieldByWhatIsLeft() {
+        Subakhall x = wet(1, 3, 0);
+        for (int i = 0; i < 4; i++) {
+            x.day(0, 0, 0);
+        }
+        x.gate(0, true);
+        x.gate(1, true);
+        x.gate(2, true);
+        x.day(2, 37, 0);
+        x.gate(1, false);
+        x.gate(2, false);
+        check.due("26: LEFT", x.ofSociety(0, 3), 2);
+        ripensAsItComes("by what is LEFT", x, 7, 2);
+    }
+
+    private static void wouldYieldByTheRest() {
+        Subakhall x = wet(2, 1, 0);
+        for (int i = 0; i < 3; i++) {
+            x.day(0, 0, 0);
+        }
+        x.gate(0, true);
+        x.day(1, 37, 0);
+        check.due("26: REST", x.water(2), 1);
+        check.due("26: 6 deep", x.ofField(0, 1), 6);
+        ripensAsItComes("by the REST", x, 7, 1);
+        Subakhall y = wet(2, 1, 0);
+        for (int i = 0; i < 2; i++) {
+            y.day(2, 0, 0);
+        }
+        y.gate(0, true);
+        y.day(1, 37, 0);
+        y.day(1, 37, 0);
+        y.day(1, 37, 0);
+        check.due("26: 4 deep", y.ofField(0, 1), 4);
+        check.due("26: REST", y.water(2), 1);
+        ripensAsItComes("by the REST, once more", y, 5, 1);
+    }
+
+    private static void wouldYieldBehindAVote() {
+        int[][] models = {{100, 10}, {10, 17}, {0, 17}};
+        for (int[] model : models) {
+            Subakhall x = Check.planted(2);
+            for (int i = 0; i < 12; i++) {
+                Check.dayTo(x, 15, 0);
+            }
+            x.ducks(0, true);
+            for (int i = 0; i < 3; i++) {
+                x.day(0, 0, 0);
+            }
+            x.society(1, 0, model[0], model[1]);
+            check.due("26: it votes", x.vote(0), 1);
+            x.day(6, 37, 0);
+            ripensAsItComes("behind a VOTE", x, 7, 6);
+        }
+    }
+
+    private static void wouldYieldWithADryField() {
+        Subakhall x = wet(1, 1, 10);
+        x.gate(0, true);
+        for (int i = 0; i < 6; i++) {
+            x.day(0, 0, 0);
+        }
+        x.day(5, 37, 0);
+        check.due("26: DRY", x.ofField(0, 3), 2);
+        ripensAsItComes("with a DRY FIELD", x, 7, 5);
+    }
+
+    /** What would be is what then is, in many a weather, for fields that are wet, dry, or bitten. */
     private static void wouldYieldAgainstTheRealHill() {
-        for (int days = 1; days <= 40; days++) {
-            Subakhall x = motley();
-            int[] would = new int[5];
-            for (int f = 0; f < 5; f++) {
-                would[f] = x.wouldYield(f, days);
-            }
-            for (int i = 0; i < days; i++) {
-                x.day(33, 11, 1);
-            }
-            for (int f = 0; f < 5; f++) {
-                check.due("26: field " + f + " in " + days, would[f], x.ofField(f, 10));
+        for (int days = 1; days <= 40; days += 3) {
+            for (int flow = 5; flow <= 65; flow += 15) {
+                for (int rain = 0; rain <= 2; rain++) {
+                    int[] weather = {flow, 9 + flow % 7, rain};
+                    asItComes("in " + days + " by " + flow, motley(weather), days, weather);
+                }
             }
         }
     }
 
-    private static Subakhall motley() {
+    /** Two societies, one rotating and one with a window that shuts soon; an owner is excluded. */
+    private static Subakhall motley(int[] weather) {
         Subakhall x = new Subakhall();
-        x.society(2, 5, 0, 40);
-        x.society(3, 9, 20, 100);
+        x.society(2, 5, 0, 15);
+        x.society(3, 9, 4, 100);
         for (int f = 0; f < 5; f++) {
             x.field(f % 2, 1 + f, 20 + 4 * f);
             x.gate(f, f != 1);
         }
         for (int i = 0; i < 5; i++) {
-            x.day(150, 10, 6);
+            x.day(60, 10, 6);
         }
         x.rotate(1, true);
         x.stones(2, 5);
         x.inspect(0);
         x.stones(4, 2);
-        for (int f = 0; f < 5; f++) {
-            x.puddle(f);
-            x.help(f, f);
-            x.help(f, f);
-            x.help(f, f);
-        }
         for (int f = 0; f < 4; f++) {
-            x.plant(f, f % 3);
+            x.puddle(f);
+            Check.helpAndPlant(x, f, f % 3);
         }
+        x.ducks(0, weather[0] > 20);
         x.ducks(3, true);
         for (int i = 0; i < 3; i++) {
-            x.day(33, 11, 1);
+            x.day(weather[0], weather[1], weather[2]);
         }
         return x;
     }
@@ -103,112 +220,80 @@ public final class WouldBeTest {
         check.badArgument("27: ripeIn(41)", x, () -> x.ripeIn(41));
     }
 
-    private static void planNow() {
-        Subakhall x = Check.oneField(60);
-        x.day(20, 0, 0);
-        x.day(3, 40, 0);
-        // On a dark day or not, without help, fallow: planted now it is ripe in 4 days.
-        check.due("28: too short to yield: the smallest", x.plan(0, 3), 0);
-        check.due("28: only at once", x.plan(0, 4), 0);
-        check.due("28: nothing is changed", x.ofField(0, 4), 0);
-        check.due("28: planted at once and 5 days on it is as good", x.plan(0, 9), 0);
-    }
-
-    private static void planPutsOff() {
-        // A flood of 40 comes first and runs off by day: what is planted late stands better.
+    /** Three societies with a field each, 44, 36 and 20 deep; nothing comes, each day is warm. */
+    private static Subakhall threeDeep() {
         Subakhall x = new Subakhall();
-        x.society(1, 0, 0, 210);
-        x.field(0, 1, 60);
+        int[] bunds = {48, 40, 24};
+        for (int s = 0; s < 3; s++) {
+            x.society(1, 0, 0, 210);
+            x.field(s, 1, bunds[s]);
+        }
         x.day(0, 0, 30);
         x.day(0, 0, 30);
         x.day(0, 40, 0);
-        check.due("28: deep", x.ofField(0, 1), 54);
-        check.due("28: planted now it is drowned", yieldPlanted(x, 0, 30), 0);
-        check.due("28: plan(0, 30)", x.plan(0, 30), bestByHand(0, 30));
-        check.due("28: 5 days are not among 5", x.plan(0, 5), 0);
-    }
-
-    private static int yieldPlanted(Subakhall x, int field, int days) {
-        return x.wouldYield(field, days);
-    }
-
-    /** The same hill with the field planted on each of the three days, played by its own calls. */
-    private static int bestByHand(int kind, int days) {
-        int best = 0;
-        int most = -1;
-        for (int off = 0; off < 3; off++) {
-            Subakhall x = new Subakhall();
-            x.society(1, 0, 0, 210);
-            x.field(0, 1, 60);
-            x.day(0, 0, 30);
-            x.day(0, 0, 30);
-            x.day(0, 40, 0);
-            for (int passed = 0; passed < days; passed++) {
-                if (passed == 5 * off) {
-                    x.puddle(0);
-                    Check.helpAndPlant(x, 0, kind);
-                }
-                x.day(0, 40, 0);
-            }
-            if (x.ofField(0, 10) > most) {
-                most = x.ofField(0, 10);
-                best = off;
-            }
-        }
-        return best;
-    }
-
-    /** Three societies on steps of their own; each plan is played by hand. */
-    private static void planOfThree() {
-        for (int kind = 0; kind < 3; kind++) {
-            int best = 0;
-            int most = -1;
-            for (int tried = 0; tried < 27; tried++) {
-                int yielded = playPlan(tried, kind, 18);
-                if (yielded > most) {
-                    most = yielded;
-                    best = tried;
-                }
-            }
-            Subakhall x = wetSteps();
-            check.due("28: plan(" + kind + ", 18)", x.plan(kind, 18), best);
-            check.due("28: it is no plain one", most > 0, true);
-        }
-    }
-
-    private static Subakhall wetSteps() {
-        Subakhall x = new Subakhall();
-        x.society(1, 0, 0, 14);
-        x.society(2, 0, 12, 30);
-        x.society(4, 0, 1, 210);
-        for (int s = 0; s < 3; s++) {
-            x.field(s, 1, 60);
-            x.field(s, 2, 40);
-            x.gate(2 * s, true);
-        }
-        x.day(0, 0, 30);
-        x.day(0, 0, 30);
-        x.day(21, 25, 2);
+        x.puddle(1);
         return x;
     }
 
-    private static int playPlan(int tried, int kind, int days) {
-        Subakhall x = wetSteps();
-        int[] off = {tried % 3, tried / 3 % 3, tried / 9};
-        for (int passed = 0; passed < days; passed++) {
-            for (int f = 0; f < 6; f++) {
-                if (passed == 5 * off[f / 2]) {
-                    x.puddle(f);
-                    Check.helpAndPlant(x, f, kind);
-                }
-            }
-            x.day(21, 25, 2);
+    /**
+     * KIND 0 is RIPE in 4 days. Above 20 these hurt by 2, 2, 4, 1, which yields 24 of 26; by 2 alone
+     * it is 26 yet. A day takes 2 of the WATER, and 3 when planted.
+     * 44 deep it stands best after 10 days, 36 deep after 5 or 10, and 20 deep at once.
+     */
+    private static void plan() {
+        Subakhall x = threeDeep();
+        check.due("28: 44 deep", x.ofField(0, 1), 44);
+        check.due("28: 36 deep", x.ofField(1, 1), 36);
+        check.due("28: 20 deep", x.ofField(2, 1), 20);
+        check.due("28: too short to yield: the smallest", x.plan(0, 3), 0);
+        check.due("28: at once or not at all", x.plan(0, 5), 0);
+        check.due("28: 3 days behind 5 are too few", x.plan(0, 8), 0);
+        check.due("28: society 1 puts off by 5", x.plan(0, 9), 3);
+        check.due("28: 10 are as many as pass", x.plan(0, 10), 3);
+        check.due("28: 3 days behind 10 are too few", x.plan(0, 13), 3);
+        check.due("28: society 0 puts off by 10", x.plan(0, 14), 2 + 3);
+        check.due("28: nothing is changed", x.ofField(0, 4), 0);
+        check.due("28: nothing is changed", x.ofField(1, 4), 1);
+        x.day(0, 40, 0);
+        check.due("28: ever the same ahead of a DARK DAY", x.plan(0, 3), 0);
+        Subakhall one = Check.oneField(60);
+        check.due("28: ahead of the first DAY, without WARMTH", one.plan(0, 30), 0);
+    }
+
+    private static void planByKind() {
+        // 42 deep. KIND 2 takes 7 days, of which the first is hurt by 2 if put off by 10.
+        Subakhall x = new Subakhall();
+        x.society(1, 0, 0, 210);
+        x.field(0, 1, 46);
+        x.day(0, 0, 30);
+        x.day(0, 0, 30);
+        x.day(0, 40, 0);
+        check.due("28: 42 deep", x.ofField(0, 1), 42);
+        check.due("28: KIND 2 is not RIPE behind 10", x.plan(2, 16), 1);
+        check.due("28: KIND 2 is RIPE behind 10", x.plan(2, 17), 2);
+        check.due("28: KIND 1 is not RIPE behind 10", x.plan(1, 14), 1);
+        check.due("28: KIND 1 is RIPE behind 10", x.plan(1, 15), 2);
+    }
+
+    private static void planMendsCracks() {
+        Subakhall x = Check.oneField(60);
+        for (int i = 0; i < 9; i++) {
+            x.day(0, 0, 0);
         }
-        int sum = 0;
-        for (int f = 0; f < 6; f++) {
-            sum += x.ofField(f, 10);
-        }
-        return sum;
+        x.day(30, 0, 0);
+        x.day(22, 0, 0);
+        x.day(0, 40, 0);
+        check.due("28: CRACKS", x.ofField(0, 2), 3);
+        check.due("28: 37 deep", x.ofField(0, 1), 37);
+        // 12 deep in 5 days, and then a planted one loses 3 a day, and no more.
+        check.due("28: with no CRACKS", x.plan(0, 9), 1);
+    }
+
+    private static void planLeavesWhatGrows() {
+        Subakhall x = Check.planted(0);
+        x.day(3, 40, 0);
+        x.day(3, 40, 0);
+        check.due("28: it is RIPE in 2, and not planted anew", x.plan(0, 3), 0);
     }
 
     private static void planRefuses() {
@@ -223,12 +308,29 @@ public final class WouldBeTest {
     private static void digest() {
         Subakhall empty = new Subakhall();
         check.due("29: of a new object", empty.digest(), digestByCalls(empty));
-        Subakhall x = motley();
+        Subakhall x = motley(new int[] {33, 12, 1});
         check.due("29: of a motley hill", x.digest(), digestByCalls(x));
         check.due("29: nothing is changed", x.digest(), digestByCalls(x));
         Subakhall y = Check.ripe();
         y.cut(0);
         check.due("29: of a RIPE FIELD", y.digest(), digestByCalls(y));
+        Subakhall yields = Check.planted(0);
+        yields.day(3, 24, 0);
+        check.due("29: RIPE in 6", yields.ripeIn(10), 6);
+        check.due("29: wouldYield() of 5", yields.digest(), digestByCalls(yields));
+        Subakhall ripens = Check.planted(0);
+        ripens.day(3, 13, 0);
+        check.due("29: RIPE in 11", ripens.ripeIn(11), 11);
+        check.due("29: ripeIn() of 10", ripens.digest(), digestByCalls(ripens));
+        Subakhall plans = threeDeep();
+        plans.day(0, 20, 0);
+        check.due("29: plan(0, 12)", plans.plan(0, 12), 0);
+        check.due("29: another one behind 13", plans.plan(0, 13) > 0, true);
+        check.due("29: plan() of 0 and 12", plans.digest(), digestByCalls(plans));
+        Subakhall kinds = threeDeep();
+        kinds.day(0, 25, 0);
+        check.due("29: another one of KIND 1", kinds.plan(0, 12) == kinds.plan(1, 12), false);
+        check.due("29: plan() of KIND 0", kinds.digest(), digestByCalls(kinds));
     }
 
     private static long digestByCalls(Subakhall x) {
