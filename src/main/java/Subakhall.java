@@ -507,7 +507,7 @@ public final class Subakhall {
         return stage >= GROWING && stage <= RIPENING;
     }
 
-    // Rows are asked by a kind that may be NONE, which asks and gives nothing.
+    // A kind may be NONE; no row is asked then, but the machine must not throw if one were.
     private static int inRow(int[] row, int index) {
         return index >= 0 && index < row.length ? row[index] : 0;
     }
