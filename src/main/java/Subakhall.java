@@ -774,14 +774,13 @@ public final class Subakhall {
             if (!isOpenOn(templeDay)) {
                 ledger.ranOut += there;
             } else if (isRotating) {
-                giveInTurn(there, ledger);
+                giveInTurn(nextInTurn(), there, ledger);
             } else {
                 giveByNotch(there, ledger);
             }
         }
 
-        void giveInTurn(int there, Ledger ledger) {
-            Field next = nextInTurn();
+        void giveInTurn(Field next, int there, Ledger ledger) {
             if (next == null) {
                 ledger.ranOut += there;
                 return;

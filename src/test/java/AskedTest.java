@@ -225,6 +225,9 @@ public final class AskedTest {
         }
         for (int day = 6; day <= 240; day++) {
             x.day(0, 0, 0);
+            if (day % 30 > 1 && day % 30 < 29) {
+                continue;
+            }
             check.due("23: the DAY", x.many(2), day);
             check.due("23: the TEMPLE'S DAY", x.many(3), day < 210 ? day : day - 210);
             check.due("23: DARK", x.many(4), day % 30 == 0 ? 1 : 0);

@@ -2,7 +2,7 @@ import java.util.Random;
 
 /** Runs of 512 calls, the same ones each time, on the class and on the Model side by side. */
 public final class ModelTest {
-    private static final int RUNS = 120;
+    private static final int RUNS = 300;
     private static final int CALLS = 512;
 
     private static final Check check = new Check("ModelTest");
@@ -12,7 +12,7 @@ public final class ModelTest {
     private final Subakhall x = new Subakhall();
     private final Model m = new Model();
     private final int weather;
-    private String call;
+    private int calls = 0;
 
     private ModelTest(int seed) {
         random = new Random(seed);
@@ -52,14 +52,17 @@ public final class ModelTest {
     }
 
     private void same(String name, Asked got, long want) {
-        call = name;
+        calls++;
+        if (calls > CALLS) {
+            return;
+        }
         long answered = answer(got);
         seen[want == Model.NO_SUCH ? 1 : want == Model.BAD_ARGUMENT ? 2 : want == Model.BAD_STATE ? 3 : 0]++;
-        check.due(call, answered, want);
+        check.due(name, answered, want);
     }
 
     private void run(int seed) {
-        for (int i = 0; i < CALLS; i++) {
+        for (int i = 0; calls < CALLS; i++) {
             String at = "run " + seed + " call " + i + ": ";
             if (i % 64 == 63) {
                 same(at + "digest", () -> x.digest(), m.digest());

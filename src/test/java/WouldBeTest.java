@@ -333,7 +333,8 @@ public final class WouldBeTest {
         check.due("29: plan() of KIND 0", kinds.digest(), digestByCalls(kinds));
     }
 
-    private static long digestByCalls(Subakhall x) {
+    /** Asks for each of its numbers by a call of its own. */
+    static long digestByCalls(Subakhall x) {
         long d = 58173;
         for (int what = 0; what <= 11; what++) {
             d = d * 31 + x.many(what);
