@@ -145,14 +145,11 @@ public final class GrowthEdgesTest {
                 }
                 check.due("2: one less", x.ofField(0, 6), asks[kind][next] - 1);
                 check.due("2: KIND " + kind + " ahead of " + asks[kind][next], x.ofField(0, 4), 2 + next);
-                Subakhall y = next == 2 ? null : x;
-                Hills.rain(x, y == null ? 1 : 0);
-                check.due("2: WARMTH of 0 changes no STAGE", x.ofField(0, 4), y == null ? 5 : 2 + next);
-                if (y != null) {
-                    Hills.rain(y, 1);
-                    check.due("2: \"as much as its KIND asks\"", y.ofField(0, 4), 3 + next);
-                    check.due("2: SUM", y.ofField(0, 6), asks[kind][next]);
-                }
+                Hills.rain(x, 0);
+                check.due("2: WARMTH of 0 changes no STAGE", x.ofField(0, 4), 2 + next);
+                Hills.rain(x, 1);
+                check.due("2: SUM", x.ofField(0, 6), asks[kind][next]);
+                check.due("2: \"as much as its KIND asks\"", x.ofField(0, 4), 3 + next);
             }
             orMore(kind, asks[kind]);
         }

@@ -282,42 +282,33 @@ public final class WorkEdgesTest {
         check.due("11: 44 and 10 NITROGEN are 50", x.ofField(0, 9), 50);
     }
 
-    /** RIPE, KIND 0, NITROGEN of 0, with a VIGOUR that is 100 less 3s and 2s. */
+    /** RIPE, of KIND 0, without NITROGEN, and with a VIGOUR that is 100 less 3s and 2s. */
     private static Subakhall poor(int threes, int twos) {
         Subakhall x = Check.planted(0);
         x.ducks(0, true);
-        Hills.dry(x, 4);
-        check.due("3: 6 deep", x.ofField(0, 1), 6);
+        Hills.dry(x, 5);
         for (int i = 0; i < threes; i++) {
-            x.day(i == 0 ? 0 : 1, 0, 0);
-            if (i == 0) {
-                x.day(0, 0, 0);
-            }
-        }
-        x.day(30, 0, 0);
-        int vigour = x.ofField(0, 7);
-        while (x.ofField(0, 1) < 40) {
-            x.day(40, 0, 0);
+            Check.dayTo(x, 1, 0);
         }
         for (int i = 0; i < twos; i++) {
-            x.day(0, 0, 0);
+            Check.dayTo(x, 21, 0);
         }
-        while (x.ofField(0, 1) > 20) {
+        while (x.ofField(0, 1) > 15) {
             x.day(0, 0, 0);
         }
         while (x.ofField(0, 9) > 0) {
             Check.dayTo(x, 15, 0);
         }
         while (x.ofField(0, 4) != 5) {
-            Check.dayTo(x, 15, Math.min(40, 150 - x.ofField(0, 6)));
+            Check.dayTo(x, 15, 40);
         }
-        check.due("3: it was hurt", vigour < 100, true);
+        check.due("3: VIGOUR", x.ofField(0, 7), 100 - 3 * threes - 2 * twos);
         return x;
     }
 
     private static void tenth() {
         boolean[] seen = new boolean[21];
-        for (int threes = 8; threes <= 32; threes++) {
+        for (int threes = 0; threes <= 32; threes++) {
             for (int twos = 0; twos <= 1; twos++) {
                 Subakhall x = poor(threes, twos);
                 int vigour = x.ofField(0, 7);
