@@ -512,7 +512,7 @@ public final class Subakhall {
         return index >= 0 && index < row.length ? row[index] : 0;
     }
 
-    /** What has gone through the hill: the other side of the water that came. */
+    // Apart from the hill, as societies and fields book here what leaves them.
     private static final class Ledger {
         int came;
         int sank;
@@ -534,7 +534,7 @@ public final class Subakhall {
         }
     }
 
-    /** What grows on a field, or did last. */
+    // Apart from the field, whose water and pests go on whatever grows there.
     private static final class Crop {
         int stage = FALLOW;
         int kind = NONE;

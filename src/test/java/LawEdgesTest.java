@@ -178,6 +178,28 @@ public final class LawEdgesTest {
         Hills.breed(y, 0, 31);
         check.due("16: YES by PESTS", y.vote(1), 1);
         check.due("16: \"without FIELDS 0\", the smaller number", y.ofSociety(1, 0), 0);
+        modelWithoutFields();
+    }
+
+    /** One neighbour without FIELDS and one with a FIELD and no CROP are as great, on either side. */
+    private static void modelWithoutFields() {
+        for (int neighbour = 0; neighbour <= 2; neighbour += 2) {
+            Subakhall x = new Subakhall();
+            x.society(1, 0, 0, 210);
+            x.society(1, 0, 70, 210);
+            x.society(1, 0, 140, 210);
+            x.field(1, 1, Hills.BUND);
+            x.field(neighbour, 1, Hills.BUND);
+            x.day(0, 0, 30);
+            x.puddle(0);
+            Check.helpAndPlant(x, 0, 2);
+            Hills.breed(x, 0, 31);
+            check.due("16: YES by PESTS", x.vote(1), 1);
+            check.due("16: \"without FIELDS 0\", no less", x.ofSociety(1, 0), 0);
+        }
+        Subakhall y = cropped(new int[] {0, 1, 1}, false, false, true);
+        check.due("16: 26 is more than the 0 of one without FIELDS", y.vote(1), 1);
+        check.due("16: FROM of the one with FIELDS", y.ofSociety(1, 0), 140);
     }
 
     private static void looksAtNeighbours() {

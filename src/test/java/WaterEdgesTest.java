@@ -243,6 +243,32 @@ public final class WaterEdgesTest {
         x.day(5, 0, 0);
         check.due("2: by ROTATING, too", x.water(6), 12);
         check.due("19: NONE comes next", x.ofSociety(0, 8), -1);
+        noneThatGetsByRotating();
+    }
+
+    private static void noneThatGetsByRotating() {
+        for (int excluded = 0; excluded <= 1; excluded++) {
+            Subakhall x = new Subakhall();
+            x.society(1, 50, 0, 210);
+            x.field(0, 1, 60);
+            x.field(0, 1, 60);
+            Hills.open(x, 0, 1);
+            x.day(2, 0, 0);
+            check.due("2: 1 of 2 sinks, and 1 is LEFT", x.water(4) * 10 + x.ofSociety(0, 3), 11);
+            x.rotate(0, true);
+            if (excluded == 1) {
+                x.stones(0, 5);
+                x.stones(1, 5);
+                x.inspect(0);
+            } else {
+                Hills.shut(x, 0, 1);
+            }
+            x.day(10, 0, 0);
+            check.due("2: the LOSS of 10 sinks, too", x.water(4), 6);
+            check.due("2: \"all of it runs OUT\", what is LEFT as well", x.water(6), 6);
+            check.due("2: \"nothing is LEFT\"", x.ofSociety(0, 3), 0);
+            check.due("21: closed", x.isClosed(), true);
+        }
     }
 
     private static void excludedCountForNothing() {
@@ -426,6 +452,20 @@ public final class WaterEdgesTest {
                 check.due("2: DRINKS in the STAGE " + stage + " of " + came, x.water(5) - drunk, want[came]);
             }
         }
+        drinksByTheStageAhead();
+    }
+
+    private static void drinksByTheStageAhead() {
+        Subakhall x = Hills.inStage(4);
+        x.day(3, 40, 0);
+        x.day(3, 9, 0);
+        check.due("2: SUM", x.ofField(0, 6), 149);
+        int drunk = x.water(5);
+        x.day(3, 1, 0);
+        check.due("2: RIPE as the DAY ends", x.ofField(0, 4), 5);
+        check.due("2: it DRINKS ahead of that", x.water(5) - drunk, 2);
+        x.day(3, 1, 0);
+        check.due("2: and then 1", x.water(5) - drunk, 3);
     }
 
     private static void dryDays() {

@@ -349,6 +349,8 @@ public final class WorkEdgesTest {
         check.due("11: days DRY stay", x.ofField(0, 3), dry);
         check.due("11: COINS of the OWNER stay", x.ofOwner(0, 0), 20);
         check.due("11: the GATE stays", x.ofField(0, 13), 1);
+        x.sell(0, 1);
+        check.due("15: sold, CRACKS and days DRY stay", x.ofField(0, 2) * 100 + x.ofField(0, 3), cracks * 100 + dry);
         Subakhall ducks = Hills.ripeWith(99);
         ducks.ducks(0, true);
         ducks.harvest(0, false);
@@ -424,7 +426,12 @@ public final class WorkEdgesTest {
             check.due("12: no CUT is counted", x.many(9), 0);
         }
         Subakhall x = Hills.inStage(5);
+        Hills.dry(x, 12);
+        int cracks = x.ofField(0, 2);
+        int dry = x.ofField(0, 3);
+        check.due("12: CRACKS and DRY ahead", cracks > 0 && dry > 0, true);
         x.cut(0);
+        check.due("12: CUT, CRACKS and days DRY stay", x.ofField(0, 2) * 100 + x.ofField(0, 3), cracks * 100 + dry);
         x.harvest(0, true);
         check.badState("12: behind the HARVEST", x, () -> x.cut(0));
         check.due("12: one CUT alone", x.many(9), 1);

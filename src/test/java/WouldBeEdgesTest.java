@@ -321,11 +321,33 @@ public final class WouldBeEdgesTest {
         later.day(0, 40, 3);
         check.due("28: RIPE in 3", later.ripeIn(5), 3);
         check.due("28: \"in the STAGE 0 or 1 then\"", later.plan(0, 8), 0);
+        growsAlready();
         Subakhall y = deep(2, 2);
         y.puddle(0);
         check.due("28: in the STAGE 1 and 0", y.plan(0, 14), 8);
         Check.helpAndPlant(y, 0, 0);
         check.due("28: in the STAGE 2 it is not planted", y.plan(0, 14), 6);
+    }
+
+    /** If it were planted, 38 or 36 deep, it would be better later, when it is not so deep. */
+    private static void growsAlready() {
+        Subakhall x = betterAndBetter();
+        x.puddle(0);
+        check.due("28: in the STAGE 1", x.plan(0, 14), 2);
+        Check.helpAndPlant(x, 0, 2);
+        check.due("28: GROWING with a SUM of 0 it is not planted", x.plan(0, 14), 0);
+        Subakhall y = Hills.of(1, 42, 0);
+        y.day(0, 0, 30);
+        y.day(0, 0, 30);
+        y.puddle(0);
+        Check.helpAndPlant(y, 0, 2);
+        y.ducks(0, true);
+        for (int i = 0; i < 50; i++) {
+            y.day(0, 0, 10);
+        }
+        y.day(0, 40, 0);
+        check.due("28: VIGOUR of 0, and 36 deep", y.ofField(0, 7) * 100 + y.ofField(0, 1), 36);
+        check.due("28: with a VIGOUR of 0 it is not planted", y.plan(0, 9), 0);
     }
 
     private static void planByTheRest() {
