@@ -300,8 +300,8 @@ public final class ComesTrueTest {
         Subakhall x = toBePlanted(societies, weather);
         int[] putOff = {plan % 3 * 5, plan / 3 % 3 * 5, plan / 9 * 5};
         for (int passed = 0; passed < days; passed++) {
-            for (int f = 0; f < x.many(1); f++) {
-                if (putOff[x.ofField(f, 0)] == passed) {
+            for (int f = 0; f < 3 * societies; f++) {
+                if (putOff[f % societies] == passed) {
                     if (x.ofField(f, 2) > 0) {
                         return -1;
                     }
@@ -311,7 +311,7 @@ public final class ComesTrueTest {
             pass(x, 1, weather);
         }
         int all = 0;
-        for (int f = 0; f < x.many(1); f++) {
+        for (int f = 0; f < 3 * societies; f++) {
             all += x.ofField(f, 10);
         }
         return all;
