@@ -150,6 +150,7 @@ public final class NothingElseTest {
         changes("stones(0, 0)", x -> x.stones(0, 0), "STONES(0)=0", "many(11)=10");
         changes("stones(3, 5)", x -> x.stones(3, 5), "STONES(3)=5", "many(11)=14");
         changes("stones(4, 2)", x -> x.stones(4, 2), "STONES(4)=2", "many(11)=10");
+        changes("stones(5, 1)", x -> x.stones(5, 1), "STONES(5)=1", "many(11)=12");
         changes("stones(2, 4), as it was", x -> x.stones(2, 4));
     }
 
@@ -182,6 +183,7 @@ public final class NothingElseTest {
         changes("ducks(3, false)", x -> x.ducks(3, false), "PESTS a DAY later(3)=5");
         changes("ducks(6, true)", x -> x.ducks(6, true), "PESTS a DAY later(3)=0");
         changes("ducks(3, true), as it was", x -> x.ducks(3, true));
+        changes("ducks(5, true), without PESTS", x -> x.ducks(5, true));
     }
 
     private static void harvest() {
@@ -262,6 +264,11 @@ public final class NothingElseTest {
         changes("sell(1, 22)", x -> x.sell(1, 22), "ofOwner(1, 0)=39", "ofOwner(1, 2)=0", "many(6)=132");
         changes("sell(2, 5)", x -> x.sell(2, 5), "ofOwner(2, 0)=8", "ofOwner(2, 2)=14", "many(6)=115");
         changes("sell(4, 20)", x -> x.sell(4, 20), "ofOwner(4, 0)=25", "ofOwner(4, 2)=2", "many(6)=130");
+        Subakhall x = Check.ripe();
+        x.harvest(0, false);
+        x.sell(0, 1);
+        x.day(0, 0, 0);
+        check.due("nothing else by sell(0, 1): half of 3 PESTS, without DUCKS", x.ofField(0, 8), 1);
     }
 
     private static void vote() {
